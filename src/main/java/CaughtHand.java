@@ -18,6 +18,8 @@ public final class CaughtHand {
     private static final int WEATHER_BITS = 30;
     private static final int ALL_WET = (1 << WEATHER_BITS) - 1;
     private static final int NOBODY = -1;
+    // no exchange, one of 28, two of them
+    private static final int MOST_TRIED = 1 + 28 + 28 * 28;
 
     private final Office live = new Office();
     private final Past past = new Past();
@@ -28,6 +30,8 @@ public final class CaughtHand {
     private final Reader tape = new Reader();
     private final Sheets sheets = new Sheets();
     private final int[] trail = new int[MOST_FORETOLD + 1];
+    private final int[] triedChains = new int[MOST_TRIED];
+    private int tried;
 
     public CaughtHand() {
         hasImage = false;
@@ -569,6 +573,7 @@ public final class CaughtHand {
     /** The first exchange times 64 and the second one (0 for none), each told as 8 times a chair and the other. */
     private int fewestExchanges(int person, int place, int stroke, int n) {
         trial.become(live);
+        tried = 0;
         if (endsSo(person, place, stroke, n)) {
             return 0;
         }
@@ -596,7 +601,7 @@ public final class CaughtHand {
         int found = NONE;
         trial.exchange(first >> 3, first & 7);
         for (int second = 0; second < 64 && found < 0; second++) {
-            if (!isExchange(second) || wasTriedBefore(first, second)) {
+            if (!isExchange(second)) {
                 continue;
             }
             trial.exchange(second >> 3, second & 7);
@@ -613,18 +618,30 @@ public final class CaughtHand {
         return code >> 3 < (code & 7);
     }
 
-    /** Exchanges without a common chair come to the same in either order, and one made twice comes to none. */
-    private static boolean wasTriedBefore(int first, int second) {
-        int chairs = 1 << (first >> 3) | 1 << (first & 7);
-        int others = 1 << (second >> 3) | 1 << (second & 7);
-        return second == first || second < first && (chairs & others) == 0;
+    private boolean endsSo(int person, int place, int stroke, int n) {
+        trial.watchOnly(person);
+        if (wasTriedInVain(trial.chain())) {
+            return false;
+        }
+        trial.hands.become(live.hands);
+        for (int k = 0; k < n; k++) {
+            trial.passDay(trial.isWet());
+        }
+        return Row.stroke(trial.writtenBy(person), place) == stroke;
     }
 
-    private boolean endsSo(int person, int place, int stroke, int n) {
-        trial.hands.become(live.hands);
-        trial.watchOnly(person);
-        trial.passDays(n);
-        return Row.stroke(trial.writtenBy(person), place) == stroke;
+    /** Most exchanges leave the same chain of models, and with it the same end; it is noted as tried, if it was not. */
+    private boolean wasTriedInVain(int chain) {
+        for (int k = 0; k < tried && k < MOST_TRIED; k++) {
+            if (triedChains[k] == chain) {
+                return true;
+            }
+        }
+        if (tried < MOST_TRIED) {
+            triedChains[tried] = chain;
+            tried++;
+        }
+        return false;
     }
 
     // ---- the tree of hands
@@ -683,6 +700,7 @@ public final class CaughtHand {
     private static final class Row {
         static final int GREATEST = 777777;
         static final int ALL_BITS = 0777777;
+        static final int FIRST_SHIFT = 15;
 
         static int packed(int figures) {
             if (figures < 0 || figures > GREATEST) {
@@ -695,7 +713,7 @@ public final class CaughtHand {
                 if (stroke > 7) {
                     return BAD;
                 }
-                row |= stroke << shift(place);
+                row |= stroke << FIRST_SHIFT - 3 * place;
                 rest /= 10;
             }
             return row;
@@ -709,12 +727,8 @@ public final class CaughtHand {
             return figures;
         }
 
-        static int shift(int place) {
-            return 3 * (STROKES - 1 - place);
-        }
-
         static int stroke(int row, int place) {
-            return row >> shift(place) & 7;
+            return row >> FIRST_SHIFT - 3 * place & 7;
         }
 
         static int firstStrokes(int row, int k) {
@@ -797,7 +811,7 @@ public final class CaughtHand {
 
         /** One stroke is written from now on as in the row, till the day told. */
         void write(int person, int place, int row, int till) {
-            int mask = 7 << Row.shift(place);
+            int mask = 7 << Row.FIRST_SHIFT - 3 * place;
             written[person] = written[person] & ~mask | row & mask;
             end[person * STROKES + place] = till;
         }
@@ -987,6 +1001,15 @@ public final class CaughtHand {
             }
         }
 
+        /** Those watched, in their order, as one number. */
+        int chain() {
+            int chain = 0;
+            for (int k = 0; k < watching; k++) {
+                chain = chain << 3 | watched[k] + 1;
+            }
+            return chain;
+        }
+
         int modelOf(int person) {
             int chair = chairOf(person);
             if (chair == NOBODY || isDry(chair) || kinds[person] == TEACHER) {
@@ -1004,11 +1027,11 @@ public final class CaughtHand {
         }
 
         int strongerOn(int chair, int person) {
-            int sitter = sitterOn(chair);
-            if (sitter == NOBODY || isDry(chair) || strengths[sitter] <= strengths[person]) {
+            if (chair < 0 || chair >= CHAIRS || isDry(chair)) {
                 return NOBODY;
             }
-            return sitter;
+            int sitter = sitters[chair];
+            return has(sitter) && strengths[sitter] > strengths[person] ? sitter : NOBODY;
         }
 
         /** One day of those watched goes by: how many strokes were taken. */
