@@ -298,6 +298,14 @@ public final class PromiseTest {
         due.is("weather", x.weather(3), 5);
         due.is("draw stays", x.seed(1), 77);
         due.is("sheets stay", x.drop(2), 7);
+        x.dry(0, 1);
+        x.dry(7, 1);
+        x.days(7);
+        x.writes(0, 9);
+        due.is("behind days, dry chairs and foretelling", Due.officeOf(x, "p0000000@7,s9777777@0"), 2);
+        due.is("no chair is dry", x.count(3), 0);
+        due.is("day 0", x.count(1), 0);
+        due.is("no weather", x.weather(5), 0);
         due.is("blanks", Due.officeOf(x, "  l 3 1 2 3 4 5 6 @ 4  , p0000001@5 ; r  "), 2);
         due.is("of blanks", x.of(0, 2), 123456);
         due.is("weather of blanks", x.weather(0), 1);
@@ -321,10 +329,12 @@ public final class PromiseTest {
         String before = Due.stateOf(x);
         String[] texts = {"", "   ", "x", " x", "P", "p", "pa", "p5", "p58", "p5123458", "p5123456", "p5123456 ", "p51234567", "p5123456@",
             "p5123456@8", "p5123456@9", "p5123456@a", "p5123456@0;", "p5123456@0; ", "p5123456@0;,", "p5123456@0;rx", "p5123456@0;r,p",
-            "p5123456@0,", "p5123456@0 ,  ", "p5123456@0,x", "p5123456@0,p5123456@0", "p5123456@0p", "p5123456@0 .", "p 5 12 3 4 5 9"};
+            "p5123456@0,", "p5123456@0 ,  ", "p5123456@0,x", "p5123456@0,p5123456@0", "p5123456@0p", "p5123456@0 .", "p 5 12 3 4 5 9", "p@0", "p5@0", "p5123@0", "p5123456@@", "p5123456 0", ",p5123456@0", ";r",
+            "p5123456@0,;r", "p5123456@0;;", "p-123456@0", "p5123456@-1"};
         int[] places = {0, 3, 0, 1, 0, 1, 1, 2, 2, 7, 8, 9, 8, 9,
             9, 9, 9, 11, 12, 11, 12, 12,
-            11, 14, 11, 20, 10, 11, 13};
+            11, 14, 11, 20, 10, 11, 13, 1, 2, 5, 9, 9, 0, 0,
+            11, 11, 1, 9};
         for (int k = 0; k < texts.length; k++) {
             unchanged("office of '" + texts[k] + "'", x, before, Due.officeOf(x, texts[k]), -20 - places[k]);
         }
@@ -630,6 +640,9 @@ public final class PromiseTest {
         due.is("two", y.seats(0, 0, 1, 1, 0), 2);
         due.is("first", y.seats(0, 0, 1, 1, 1), 1);
         due.is("second", y.seats(0, 0, 1, 1, 2), 23);
+        seatsByLaterExchanges();
+        due.is("vain of one stroke", x.seats(0, 0, 7, 3, 0), NONE);
+        due.is("is not vain of another", x.seats(0, 0, 0, 3, 0), 0);
         due.is("seats", x.seats(-1, 0, 0, 0, 0), BAD);
         due.is("seats", x.seats(3, 0, 0, 0, 0), BAD);
         due.is("seats", x.seats(0, -1, 0, 0, 0), BAD);
@@ -640,6 +653,21 @@ public final class PromiseTest {
         due.is("seats", x.seats(0, 0, 0, 61, 0), BAD);
         due.is("seats", x.seats(0, 0, 0, 0, -1), BAD);
         due.is("seats", x.seats(0, 0, 0, 0, 3), BAD);
+    }
+
+    private static void seatsByLaterExchanges() {
+        String[] texts = {"s1111111@2,p2222222@1,s1333333@4,s7444444@7;rrr", "s3111111@6,p9222222@5,l6333333@4,s5444444@7;rrr",
+            "s4111111@7,s3222222@2,l9333333@6,l0444444@0;rrr", "s1111111@1,s2222222@0,p7333333@2,l0444444@3;rrr"};
+        int[][] told = {{231, 2, 11, 20}, {76, 4, 6, 15}, {231, 3, 30, 39}, {38, 3, 11, 20}};
+        for (int k = 0; k < texts.length; k++) {
+            CaughtHand x = with(texts[k]);
+            for (int chair = 0; chair < 8; chair++) {
+                x.dry(chair, told[k][0] >> chair & 1);
+            }
+            due.is("two", x.seats(0, 0, told[k][1], 1, 0), 2);
+            due.is("first", x.seats(0, 0, told[k][1], 1, 1), told[k][2]);
+            due.is("second", x.seats(0, 0, told[k][1], 1, 2), told[k][3]);
+        }
     }
 
     private static void promise21() {
@@ -680,6 +708,16 @@ public final class PromiseTest {
         due.is("likely", x.likely(0, 0, 0, 2), BAD);
         due.is("likely", x.likely(2, 0, 0, 0), BAD);
         due.is("likely", x.likely(-1, 0, 0, 0), BAD);
+        CaughtHand moved = with("p0000000@0,s9123456@1");
+        moved.sit(0, 7);
+        due.is("sitting elsewhere now", moved.likely(0, 0, 1, 0), 1);
+        due.is("sitting elsewhere now", moved.likely(0, 0, 1, 1), 1);
+        CaughtHand brief = with("p0000000@0,p9123456@1");
+        brief.lasting(1);
+        due.is("just n days", brief.likely(0, 100000, 1, 0), 1);
+        due.is("just n days", brief.likely(0, 100000, 1, 1), 2);
+        due.is("the last of them wet", brief.likely(0, 100000, 3, 1), 2);
+        due.is("the last of them not", brief.likely(0, 0, 3, 0), 1);
         CaughtHand y = with("p0000000@0,s9123456@1");
         due.is("three of four days", y.likely(0, 123000, 4, 0), 1);
         due.is("three of four days", y.likely(0, 123000, 4, 1), 4);
@@ -778,6 +816,9 @@ public final class PromiseTest {
         due.is("none", x.two(777777, 1), NONE);
         due.is("several", with("p0111000@0,p0000111@1,p0000111@2").two(111111, 0), 2);
         due.is("the first", with("p0111000@0,p0000111@1,p0000111@2").two(111111, 1), 1);
+        due.is("all but the first stroke", x.two(711333, 0), 0);
+        due.is("all but the last stroke", x.two(131227, 0), 0);
+        due.is("of 0", with("p0000111@0,p0111000@1").two(0, 0), 1);
         due.is("two", x.two(8, 0), BAD);
         due.is("two", x.two(-1, 0), BAD);
         due.is("two", x.two(0, -1), BAD);
@@ -797,6 +838,8 @@ public final class PromiseTest {
         due.is("six", with("p0000000@0,p0111111@1").tree(), 6);
         due.is("alike", with("p0111111@0,p0111111@1").tree(), 0);
         due.is("by the middle", with("p0000000@0,p0111111@1,p0000111@2").tree(), 6);
+        due.is("the nearest first", with("p0000000@0,p0000111@1,p0111111@2").tree(), 6);
+        due.is("a row", with("p0000000@0,p0111100@1,p0110000@2,p0111111@3,p0000001@4").tree(), 7);
         due.is("a star", with("p0000001@0,p0000010@1,p0000100@2,p0000000@3").tree(), 3);
         due.is("two pairs", with("p0000000@0,p0111111@1,p0000001@2,p0111110@3").tree(), 1 + 1 + 5);
         CaughtHand x = with("p0000000@0,p9111111@1;rrr");
@@ -871,6 +914,23 @@ public final class PromiseTest {
         due.is("an image outlives an office", x.restore(), 1);
         due.is("as it was", Due.stateOf(x).equals(before) ? 1 : 0, 1);
         due.is("days known", x.count(5), 2);
+        CaughtHand z = with("p0000000@0,p9123456@1,p1777777@2;rrrrrrrrrrrrrrrrrrrrrrrrrrrrrr");
+        z.days(5);
+        z.image();
+        z.restore();
+        String[] undone = new String[6];
+        for (int k = 5; k >= 0; k--) {
+            undone[k] = Due.stateOf(z);
+            z.undo();
+        }
+        z.days(9);
+        z.sit(0, 7);
+        z.days(9);
+        due.is("restore", z.restore(), 1);
+        for (int k = 5; k >= 0; k--) {
+            due.is("as it was " + k + " days on", Due.stateOf(z).equals(undone[k]) ? 1 : 0, 1);
+            z.undo();
+        }
         due.is("bad calls leave it", x.person(-1, 0, 0, 0), BAD);
         due.is("as it was", Due.stateOf(x).equals(before) ? 1 : 0, 1);
     }
@@ -892,6 +952,24 @@ public final class PromiseTest {
         x.item(0, 2, 23, 1);
         due.is("never", x.lasted(0, 0, 2, 22, 1), 0);
         due.is("nothing changed", Due.stateOf(x).equals(before) ? 1 : 0, 1);
+        CaughtHand y = with("p0000000@0,s9123456@1,t9654321@7;.r..r.r");
+        y.days(2);
+        y.sheet(0, 2, 6);
+        int[] papers = {4, 121000, 20, 121000, 60, 777777};
+        for (int k = 0; k < 6; k++) {
+            y.item(0, 2, k, papers[k]);
+        }
+        due.is("papers of two days", y.lasted(0, 0, 2, 0, 2), 0);
+        due.is("60 days on, all 7", y.lasted(0, 0, 2, 4, 1), 0);
+        for (int l = 1; l <= 30; l++) {
+            y.image();
+            y.lasting(l);
+            y.item(0, 2, 1, y.writes(0, 4));
+            y.item(0, 2, 3, y.writes(0, 20));
+            y.item(0, 2, 5, y.writes(0, 60));
+            y.restore();
+            due.is("by what it writes with " + l, y.lasted(0, 0, 2, 0, 3) >> l & 1, 1);
+        }
         x.days(1);
         x.item(0, 2, 0, 14);
         x.item(0, 2, 1, 0);
@@ -1011,6 +1089,10 @@ public final class PromiseTest {
         due.is("empty", x.item(0, 3, 0, 1), INDEX);
         due.is("sheet", x.sheet(0, 2, 24), 24);
         x.person(0, 0, 0, 0);
+        x.item(0, 2, 0, 61);
+        due.is("an item", x.lasted(0, 0, 2, 0, 1), NOT);
+        due.is("a new one", x.sheet(0, 2, 24), 24);
+        due.is("all 0", x.lasted(0, 0, 2, 0, 1), 0x7ffffffe);
         x.item(0, 2, 1, 7);
         due.is("an item", x.lasted(0, 0, 2, 0, 1), 0);
         due.is("refused", x.sheet(0, 1, -1), SIZE);

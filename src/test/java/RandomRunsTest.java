@@ -189,6 +189,10 @@ public final class RandomRunsTest {
                 due.is("copy " + s + " " + i + " " + t + " " + j + " " + n, x.copy(s, i, t, j, n), m.copy(s, i, t, j, n));
                 break;
             case 10:
+                if (upTo(2) == 0) {
+                    frames(x, m, p);
+                    break;
+                }
                 n = upTo(3) == 0 ? number(25) : n;
                 due.is("film " + p + " " + n + " " + s + " " + lane + " " + i, x.film(p, n, s, lane, i), m.film(p, n, s, lane, i));
                 break;
@@ -218,6 +222,21 @@ public final class RandomRunsTest {
             due.is("item", x.item(s, lane, from + 2 * k + 1, papers[k]), m.item(s, lane, from + 2 * k + 1, papers[k]));
         }
         due.is("lasted " + p + " " + s + " " + lane + " " + from + " " + n, x.lasted(p, s, lane, from, n), m.lasted(p, s, lane, from, n));
+    }
+
+    /** Each item of a film, laid as a paper of its day, is one's own writing by the lasting that is. */
+    private static void frames(CaughtHand x, Model m, int p) {
+        int lane = upTo(4);
+        int n = 1 + upTo(24);
+        int from = upTo(25 - n);
+        due.is("sheet 3", x.sheet(3, lane, 24), m.sheet(3, lane, 24));
+        due.is("sheet 2", x.sheet(2, lane, 3), m.sheet(2, lane, 3));
+        due.is("film " + p + " " + n + " 3 " + lane + " " + from, x.film(p, n, 3, lane, from), m.film(p, n, 3, lane, from));
+        for (int k = 0; k < n; k++) {
+            due.is("item", x.item(2, lane, 0, k + 1), m.item(2, lane, 0, k + 1));
+            due.is("copy", x.copy(3, from + k, 2, 1, 1), m.copy(3, from + k, 2, 1, 1));
+            due.is("frame " + k + " of " + p + " in " + lane, x.lasted(p, 2, lane, 0, 1), m.lasted(p, 2, lane, 0, 1));
+        }
     }
 
     private static void look(CaughtHand x, Model m) {
