@@ -282,12 +282,12 @@ public final class CaughtHand {
             return BAD;
         }
         int ways = weathersThatEndIn(person, row, n);
-        if (ways == 0) {
+        // the lower number is a power of two, so the greatest one in the upper number is all that can be cancelled
+        int common = ways & -ways;
+        if (common == 0) {
             return what;
         }
-        // the lower number is a power of two, so halving is all that can be cancelled
-        int halvings = Integer.numberOfTrailingZeros(ways);
-        return (what == 0 ? ways : 1 << n) >> halvings;
+        return (what == 0 ? ways : 1 << n) / common;
     }
 
     public int most(int place, int n, int what) {

@@ -1049,6 +1049,13 @@ public final class PromiseTest {
             due.is("frame " + k, x.lasted(0, 1, 2, 0, 1) & allFrom(6), allFrom(6));
         }
         due.is("nothing changed", Due.stateOf(x).equals(before) ? 1 : 0, 1);
+        x.days(4);
+        x.writes(0, 40);
+        due.is("from now on", x.film(0, 2, 0, 2, 3), 2);
+        x.item(1, 2, 0, 2);
+        x.copy(0, 4, 1, 1, 1);
+        due.is("all of it two days on", x.writes(0, 2), 765432);
+        due.is("is the second frame, but for a lasting of 1", x.lasted(0, 1, 2, 0, 1), 0x7ffffffc);
         due.is("from 23", x.film(0, 1, 0, 2, 23), 1);
         due.is("index", x.film(0, 2, 0, 2, 23), INDEX);
         due.is("index", x.film(0, 1, 0, 2, -1), INDEX);
