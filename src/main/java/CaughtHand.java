@@ -570,64 +570,45 @@ public final class CaughtHand {
         return ways;
     }
 
-    /** The first exchange times 64 and the second one (0 for none), each told as 8 times a chair and the other. */
+    /** The first exchange times 64 and the second one, each told as 8 times a chair and the other, or 0 for none. */
     private int fewestExchanges(int person, int place, int stroke, int n) {
         trial.become(live);
         tried = 0;
-        if (endsSo(person, place, stroke, n)) {
+        if (endsSo(0, 0, person, place, stroke, n)) {
             return 0;
         }
         for (int first = 0; first < 64; first++) {
-            if (!isExchange(first)) {
-                continue;
-            }
-            trial.exchange(first >> 3, first & 7);
-            boolean so = endsSo(person, place, stroke, n);
-            trial.exchange(first >> 3, first & 7);
-            if (so) {
+            if (isExchange(first) && endsSo(first, 0, person, place, stroke, n)) {
                 return first << 6;
             }
         }
-        for (int first = 0; first < 64; first++) {
-            int second = isExchange(first) ? secondExchange(first, person, place, stroke, n) : NONE;
-            if (second > 0) {
-                return first << 6 | second;
+        for (int both = 0; both < 64 * 64; both++) {
+            int first = both >> 6;
+            int second = both & 63;
+            if (isExchange(first) && isExchange(second) && endsSo(first, second, person, place, stroke, n)) {
+                return both;
             }
         }
         return NONE;
-    }
-
-    private int secondExchange(int first, int person, int place, int stroke, int n) {
-        int found = NONE;
-        trial.exchange(first >> 3, first & 7);
-        for (int second = 0; second < 64 && found < 0; second++) {
-            if (!isExchange(second)) {
-                continue;
-            }
-            trial.exchange(second >> 3, second & 7);
-            if (endsSo(person, place, stroke, n)) {
-                found = second;
-            }
-            trial.exchange(second >> 3, second & 7);
-        }
-        trial.exchange(first >> 3, first & 7);
-        return found;
     }
 
     private static boolean isExchange(int code) {
         return code >> 3 < (code & 7);
     }
 
-    private boolean endsSo(int person, int place, int stroke, int n) {
+    private boolean endsSo(int first, int second, int person, int place, int stroke, int n) {
+        trial.exchange(first >> 3, first & 7);
+        trial.exchange(second >> 3, second & 7);
         trial.watchOnly(person);
-        if (wasTriedInVain(trial.chain())) {
-            return false;
+        boolean so = false;
+        if (!wasTriedInVain(trial.chain())) {
+            trial.hands.become(live.hands);
+            trial.passDays(n);
+            so = Row.stroke(trial.writtenBy(person), place) == stroke;
         }
-        trial.hands.become(live.hands);
-        for (int k = 0; k < n; k++) {
-            trial.passDay(trial.isWet());
-        }
-        return Row.stroke(trial.writtenBy(person), place) == stroke;
+        trial.exchange(second >> 3, second & 7);
+        trial.exchange(first >> 3, first & 7);
+        return so;
     }
 
     /** Most exchanges leave the same chain of models, and with it the same end; it is noted as tried, if it was not. */
@@ -748,7 +729,7 @@ public final class CaughtHand {
         /** The place of the first stroke with a bit in it; only for differences that are not 0. */
         static int firstPlace(int differences) {
             int place = 0;
-            while (place < STROKES - 1 && stroke(differences, place) == 0) {
+            while (place < STROKES - 1 && differences >> FIRST_SHIFT - 3 * place == 0) {
                 place++;
             }
             return place;
