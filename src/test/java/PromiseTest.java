@@ -105,10 +105,11 @@ public final class PromiseTest {
         for (int[] b : bad) {
             unchanged("person " + b[0] + " " + b[1] + " " + b[2] + " " + b[3], x, empty, x.person(b[0], b[1], b[2], b[3]), BAD);
         }
+        x = new CaughtHand();
         due.is("person", x.person(0, 0, 170777, 3), 0);
         String one = Due.stateOf(x);
         unchanged("occupied", x, one, x.person(3, 9, 777777, 3), NOT);
-        unchanged("bad ahead of occupied", x, one, x.person(4, 9, 777777, 3), BAD);
+        due.is("bad ahead of occupied", x.person(4, 9, 777777, 3), BAD);
         due.is("person", x.person(3, 9, 777777, 0), 1);
         due.is("person", x.person(2, 9, 0, 7), 2);
         due.is("person", x.person(1, 5, 7, 1), 3);
@@ -323,10 +324,6 @@ public final class PromiseTest {
     }
 
     private static void promise11Faults() {
-        CaughtHand x = with("s5123456@2,p1000000@3;r");
-        x.dry(6, 1);
-        x.days(2);
-        String before = Due.stateOf(x);
         String[] texts = {"", "   ", "x", " x", "P", "p", "pa", "p5", "p58", "p5123458", "p5123456", "p5123456 ", "p51234567", "p5123456@",
             "p5123456@8", "p5123456@9", "p5123456@a", "p5123456@0;", "p5123456@0; ", "p5123456@0;,", "p5123456@0;rx", "p5123456@0;r,p",
             "p5123456@0,", "p5123456@0 ,  ", "p5123456@0,x", "p5123456@0,p5123456@0", "p5123456@0p", "p5123456@0 .", "p 5 12 3 4 5 9", "p@0", "p5@0", "p5123@0", "p5123456@@", "p5123456 0", ",p5123456@0", ";r",
@@ -336,10 +333,14 @@ public final class PromiseTest {
             11, 14, 11, 20, 10, 11, 13, 1, 2, 5, 9, 9, 0, 0,
             11, 11, 1, 9};
         for (int k = 0; k < texts.length; k++) {
+            CaughtHand x = with("s5123456@2,p1000000@3;r");
+            x.dry(6, 1);
+            x.days(2);
+            String before = Due.stateOf(x);
             unchanged("office of '" + texts[k] + "'", x, before, Due.officeOf(x, texts[k]), -20 - places[k]);
+            due.is("weather stays", x.weather(1), 1);
+            due.is("the tape is empty", x.type('p'), 1);
         }
-        due.is("weather stays", x.weather(1), 1);
-        due.is("the tape is empty", x.type('p'), 1);
     }
 
     private static void promise11Full() {
@@ -920,7 +921,7 @@ public final class PromiseTest {
         z.restore();
         String[] undone = new String[6];
         for (int k = 5; k >= 0; k--) {
-            undone[k] = Due.stateOf(z);
+            undone[k] = Edges.handsOf(z);
             z.undo();
         }
         z.days(9);
@@ -928,11 +929,9 @@ public final class PromiseTest {
         z.days(9);
         due.is("restore", z.restore(), 1);
         for (int k = 5; k >= 0; k--) {
-            due.is("as it was " + k + " days on", Due.stateOf(z).equals(undone[k]) ? 1 : 0, 1);
+            due.is("as it was " + k + " days on", Edges.handsOf(z).equals(undone[k]) ? 1 : 0, 1);
             z.undo();
         }
-        due.is("bad calls leave it", x.person(-1, 0, 0, 0), BAD);
-        due.is("as it was", Due.stateOf(x).equals(before) ? 1 : 0, 1);
     }
 
     private static void promise31() {

@@ -1,7 +1,9 @@
 /** Runs of calls drawn by a fixed seed: the class and the model must answer each of them alike. */
 public final class RandomRunsTest {
-    private static final int RUNS = 1500;
+    private static final int RUNS = 9000;
+    /** Behind so many calls a run ends; the longest step and the last look keep it below the 512 of an object. */
     private static final int CALLS = 160;
+    private static final int MOST_CALLS = 512;
     private static final Due due = new Due();
     private static long state = 20261119;
 
@@ -14,6 +16,7 @@ public final class RandomRunsTest {
     }
 
     private static void oneRun() {
+        int begun = due.asked();
         CaughtHand x = new CaughtHand();
         Model m = new Model();
         if (upTo(8) > 0) {
@@ -27,7 +30,7 @@ public final class RandomRunsTest {
             int l = 1 + upTo(upTo(2) == 0 ? 4 : 30);
             due.is("lasting " + l, x.lasting(l), m.lasting(l));
         }
-        for (int k = 0; k < CALLS && due.wrong() == 0; k++) {
+        while (due.asked() - begun < CALLS && due.wrong() == 0) {
             int sort = upTo(100);
             if (sort < 34) {
                 change(x, m);
@@ -35,13 +38,16 @@ public final class RandomRunsTest {
                 pass(x, m);
             } else if (sort < 72) {
                 ask(x, m);
-            } else if (sort < 92) {
+            } else if (sort < 97) {
                 sheets(x, m);
             } else {
                 look(x, m);
             }
         }
         look(x, m);
+        if (due.asked() - begun > MOST_CALLS) {
+            due.so("a run keeps to the calls of an object", false);
+        }
     }
 
     private static void change(CaughtHand x, Model m) {
