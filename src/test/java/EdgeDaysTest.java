@@ -65,6 +65,9 @@ public final class EdgeDaysTest {
         due.is("of all but the strongest", six.days(1), 6);
         due.is("of a dry day", six.days(1), 0);
         due.is("of a dry and a wet day", six.days(2), 6);
+        due.is("of a wet and a dry day", edges.with(Edges.SEVEN + ";r").days(2), 6);
+        due.is("of a stroke a day", edges.with("p0000000@0,p9777777@1;" + Edges.WET).days(5), 5);
+        due.is("of no more than six", edges.with("p0000000@0,p9777777@1;" + Edges.WET).days(14), 6);
     }
 
     /** An object whose day is told, 60 at a time, then the rest. */
@@ -318,6 +321,12 @@ public final class EdgeDaysTest {
         CaughtHand last = edges.with("p0000000@0,p9000001@1;r");
         last.days(1);
         due.is("the last one alone", last.of(0, 4), 1);
+        CaughtHand some = edges.with("p0010203@0,p9110233@1;rrr");
+        int[] writes = {10203, 110203, 110233, 110233};
+        for (int day = 0; day < writes.length; day++) {
+            due.is("day by day", some.of(0, 4), writes[day]);
+            some.days(1);
+        }
     }
 
     private static String sixOf(int hand) {

@@ -57,6 +57,10 @@ public final class EdgeForetoldTest {
     }
 
     private static void behindEach() {
+        CaughtHand last = far();
+        last.days(1);
+        due.is("behind 59 days", last.writes(0, 59), 0);
+        due.is("behind 60 days", last.writes(0, 60), 100000);
         for (int n = 0; n <= 60; n++) {
             CaughtHand then = mixed();
             if (n > 0) {
@@ -229,6 +233,7 @@ public final class EdgeForetoldTest {
         due.part("20: NONE: none will do (three would)"); threeNeeded();
         due.part("20: of whoever sits there, also nobody"); alsoNobody();
         due.part("20: made now, by which it WRITES so behind n DAYS"); madeNow();
+        due.part("20: every exchange, and every two, tried in their order"); everyExchange();
         due.part("20: BAD ahead of all others"); badAheadOfNoSeats();
     }
 
@@ -269,6 +274,12 @@ public final class EdgeForetoldTest {
         seatsAre(edges.with("p0000000@0,p5100000@7;r", 65), "two", new int[] {0, 0, 1, 1}, 2, 1, 23);
         seatsAre(edges.with("p0000000@7,p5700000@4;r", 255 - 96), "the last second", new int[] {0, 0, 7, 1}, 2, 8 * 4 + 5, 55);
         seatsAre(edges.with("p0333333@0,l5222222@1,p9000000@5;rr", 255 - 56), "a row of three", new int[] {0, 0, 7, 2}, 2, 3, 12);
+        String[] texts = {"s1111111@2,p2222222@1,s1333333@4,s7444444@7;r", "s3111111@6,p9222222@5,l6333333@4,s5444444@7;r",
+            "s4111111@7,s3222222@2,l9333333@6,l0444444@0;r", "s1111111@1,s2222222@0,p7333333@2,l0444444@3;r"};
+        int[][] want = {{231, 2, 11, 20}, {76, 4, 6, 15}, {231, 3, 30, 39}, {38, 3, 11, 20}};
+        for (int k = 0; k < texts.length; k++) {
+            seatsAre(edges.with(texts[k], want[k][0]), "a chair in both", new int[] {0, 0, want[k][1], 1}, 2, want[k][2], want[k][3]);
+        }
     }
 
     private static void threeNeeded() {
@@ -298,10 +309,74 @@ public final class EdgeForetoldTest {
         seatsAre(x, "the next wet one", new int[] {0, 0, 7, 33}, 1, 1, NONE);
         x.lasting(30);
         seatsAre(x, "sixty on", new int[] {0, 0, 7, 60}, 1, 1, NONE);
+        seatsAre(edges.with("p0000000@0,p9700000@2;r"), "no day goes by", new int[] {0, 0, 7, 0}, NONE, NONE, NONE);
         CaughtHand over = edges.with("p0000000@0,p9700000@1;r");
         over.days(1);
         seatsAre(over, "taken already", new int[] {0, 0, 0, 13}, NONE, NONE, NONE);
         seatsAre(over, "is its own again", new int[] {0, 0, 0, 14}, 0, NONE, NONE);
+    }
+
+    private static void everyExchange() {
+        everyExchangeOf("p0012345@0,s7111111@1,l5222222@2,t9333333@4,p8012340@5;r.rrr..rr.", 0, 0, 5);
+        everyExchangeOf("p0012345@0,s7111111@1,l5222222@2,t9333333@4,p8012340@5;r.rrr..rr.", 0, 2, 2);
+        everyExchangeOf("p0000000@0,p1111111@1,p2222222@2,p3333333@3,p4444444@4,p5555555@5,p6666666@6;r", 0, 0, 1);
+        everyExchangeOf("p0000000@0,p6111111@1,p5222222@2,p4333333@3,p3444444@4,p2555555@5,p1666666@6;rrr", 0, 0, 3);
+        everyExchangeOf("p6111111@1,p5222222@2,l4333333@3,l3444444@4,p2555555@5,p1666666@6,p0000000@0;rrr", 64, 6, 3);
+        everyExchangeOf("l2000000@7,t9123456@0,s3654321@3,l5111111@4,s5777777@5;rr", 255 - 112, 2, 2);
+    }
+
+    /** Seats for each stroke at each place, by what is written behind every exchange made by hand, in their order. */
+    private static void everyExchangeOf(String text, int dryChairs, int person, int n) {
+        int[][] first = new int[48][];
+        note(first, edges.with(text, dryChairs).writes(person, n), 0, NONE, NONE);
+        for (int one = 0; one < 64; one++) {
+            note(first, writtenBehind(text, dryChairs, person, n, one, 0), 1, one, NONE);
+        }
+        for (int both = 0; both < 64 * 64; both++) {
+            if (both >> 6 != 0 && (both & 63) != 0) {
+                note(first, writtenBehind(text, dryChairs, person, n, both >> 6, both & 63), 2, both >> 6, both & 63);
+            }
+        }
+        CaughtHand x = edges.with(text, dryChairs);
+        for (int asked = 0; asked < 48; asked++) {
+            int[] want = first[asked] == null ? new int[] {NONE, NONE, NONE} : first[asked];
+            seatsAre(x, "stroke " + asked % 8 + " at " + asked / 8, new int[] {person, asked / 8, asked % 8, n}, want);
+        }
+    }
+
+    private static void note(int[][] first, int written, int many, int one, int other) {
+        if (written < 0) {
+            return;
+        }
+        int power = 100000;
+        for (int place = 0; place < 6; place++) {
+            int asked = 8 * place + written / power % 10;
+            if (first[asked] == null) {
+                first[asked] = new int[] {many, one, other};
+            }
+            power /= 10;
+        }
+    }
+
+    /** What is written behind exchanges made by sitting down, or BAD if one is told otherwise than with the lesser chair first. */
+    private static int writtenBehind(String text, int dryChairs, int person, int n, int one, int other) {
+        if (one >> 3 >= (one & 7) || other != 0 && other >> 3 >= (other & 7)) {
+            return BAD;
+        }
+        CaughtHand x = edges.with(text, dryChairs);
+        exchange(x, one >> 3, one & 7);
+        if (other != 0) {
+            exchange(x, other >> 3, other & 7);
+        }
+        return x.writes(person, n);
+    }
+
+    private static void exchange(CaughtHand x, int chair, int other) {
+        if (x.at(chair) >= 0) {
+            x.sit(x.at(chair), other);
+        } else if (x.at(other) >= 0) {
+            x.sit(x.at(other), chair);
+        }
     }
 
     private static void badAheadOfNoSeats() {
@@ -356,11 +431,12 @@ public final class EdgeForetoldTest {
         due.part("22: of one"); edges.aPerson("person", (x, v) -> x.likely(v, 0, 8, 0));
         due.part("22: a told paper (six figures)"); edges.sixFigures("paper", (x, v) -> x.likely(0, v, 2, 1));
         due.part("22: the next n (0 .. 8) DAYS"); edges.within("n", 0, 8, (x, v) -> x.likely(0, 0, v, 0));
-        due.part("22: upper (0), lower number (1)"); edges.within("what", 0, 1, (x, v) -> x.likely(0, 0, 8, v));
+        due.part("22: upper (0), lower number (1)"); edges.within("what", 0, 1, (x, v) -> x.likely(0, 123400, 8, v));
         due.part("22: nothing is changed"); nothingIsChangedByLikely();
         due.part("22: 0 is 0 of 1"); likelyNever();
         due.part("22: 1 is 1 of 1"); likelyAlways();
         due.part("22: in lowest terms"); lowestTerms();
+        due.part("22: behind the next n DAYS"); likelyBehindDays();
         due.part("22: each as likely WET as not, whatever WEATHER says"); whateverWeatherSays();
     }
 
@@ -418,6 +494,28 @@ public final class EdgeForetoldTest {
         row.lasting(30);
         likelyIs(row, 0, 123456, 8, 1, 256);
         likelyIs(row, 0, 123450, 8, 1, 32);
+    }
+
+    private static void likelyBehindDays() {
+        // taken already, till day 8; nothing more can be taken
+        CaughtHand x = edges.with("p0000000@0,p9100000@1;r");
+        x.lasting(8);
+        x.days(1);
+        x.sit(0, 7);
+        for (int n = 0; n <= 8; n++) {
+            likelyIs(x, 0, 100000, n, n <= 7 ? 1 : 0, 1);
+            likelyIs(x, 0, 0, n, n <= 7 ? 0 : 1, 1);
+        }
+        x.sit(0, 0);
+        likelyIs(x, 0, 100000, 7, 1, 1);
+        likelyIs(x, 0, 100000, 8, 1, 2);
+        x.days(7);
+        likelyIs(x, 0, 100000, 0, 1, 1);
+        likelyIs(x, 0, 100000, 1, 1, 2);
+        x.days(1);
+        likelyIs(x, 0, 100000, 0, 0, 1);
+        likelyIs(x, 0, 100000, 1, 1, 2);
+        likelyIs(x, 0, 100000, 2, 3, 4);
     }
 
     private static void whateverWeatherSays() {

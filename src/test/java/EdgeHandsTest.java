@@ -40,6 +40,8 @@ public final class EdgeHandsTest {
         twoIs(edges.with("p0123456@0"), 777777, 0, NONE);
         twoIs(edges.with("p0123456@0,p0123456@1"), 777777, 0, NONE);
         twoIs(edges.with(Edges.SEVEN), 777777, 0, NONE);
+        due.is("no such paper ahead of it", new CaughtHand().two(8, 1), BAD);
+        due.is("no such what ahead of it", new CaughtHand().two(0, 2), BAD);
     }
 
     private static void eachStroke() {
@@ -281,29 +283,25 @@ public final class EdgeHandsTest {
 
     private static void asItWasThen() {
         Edges.Call[] calls = {x -> x.person(3, 9, 777777, 3), x -> x.sit(0, 7), x -> x.sit(0, 1), x -> x.dry(1, 1), x -> x.dry(6, 0), x -> x.weather(1073741823),
-            x -> x.lasting(30), x -> x.days(60), x -> x.drift(9), x -> x.undo(), x -> x.seed(0), x -> Due.officeOf(x, "3000000@7"), x -> x.dryOut(0, 60)};
-        CaughtHand all = Edges.rich();
+            x -> x.lasting(30), x -> x.days(60), x -> x.drift(9), x -> x.undo(), x -> x.seed(0), x -> Due.officeOf(x, "p3000000@7"), x -> x.dryOut(0, 60)};
+        CaughtHand all = Edges.richButNoTape();
         all.image();
         for (int k = 0; k < calls.length; k++) {
-            CaughtHand x = Edges.rich();
-            CaughtHand y = Edges.rich();
-            x.office();
-            y.office();
+            CaughtHand x = Edges.richButNoTape();
             x.image();
-            y.image();
-            x.type('p');
             calls[k].on(x);
             due.is("restore", x.restore(), 1);
-            x.office();
-            due.so("as it was ahead of call " + k, Edges.allOf(x).equals(Edges.allOf(y)));
+            due.so("as it was ahead of call " + k, Edges.allOf(x).equals(allOfRichAndItsImage()));
             calls[k].on(all);
         }
         all.restore();
-        all.office();
-        CaughtHand same = Edges.rich();
-        same.office();
-        same.image();
-        due.so("as it was ahead of all of them", Edges.allOf(all).equals(Edges.allOf(same)));
+        due.so("as it was ahead of all of them", Edges.allOf(all).equals(allOfRichAndItsImage()));
+    }
+
+    private static String allOfRichAndItsImage() {
+        CaughtHand x = Edges.richButNoTape();
+        x.image();
+        return Edges.allOf(x);
     }
 
     private static void sheetsAndTapeStay() {

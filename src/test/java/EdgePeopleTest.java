@@ -134,7 +134,7 @@ public final class EdgePeopleTest {
         due.part("2: a HAND told as a number of six figures (0 .. 777777); BAD (a figure 8 or 9, too)");
         edges.sixFigures("hand", (x, v) -> x.person(0, 0, v, 7));
         due.part("2: the first one first"); firstFigureFirst();
-        due.part("2: sit on a CHAIR (0 .. 7"); chairsOfNewPeople();
+        due.part("2: sit on a CHAIR (0 .. 7)"); chairsOfNewPeople();
         due.part("2: one on each; NOT: somebody sits there"); somebodySitsThere();
         due.part("2: BAD ahead of all others, then NOT, then FULL"); personRefusedInOrder();
         due.part("2: WRITES six STROKES, its own at first"); ownAtFirst();

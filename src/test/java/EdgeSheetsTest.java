@@ -271,10 +271,12 @@ public final class EdgeSheetsTest {
         due.is("the second frame is no day", x.lasted(1, 0, 2, 4, 1), NOT);
         x.item(0, 2, 4, 0);
         due.is("the item behind it", x.lasted(1, 0, 2, 4, 1), Edges.EVERY_L);
-        CaughtHand r = Edges.rich();
-        String before = Due.stateOf(r);
-        r.film(0, 7, 0, 2, 0);
-        due.so("people and days stay", Due.stateOf(r).equals(before));
+        CaughtHand filmed = Edges.rich();
+        CaughtHand same = Edges.rich();
+        due.is("film", filmed.film(2, 2, 0, 2, 5), 2);
+        same.item(0, 2, 5, 77);
+        same.item(0, 2, 6, 77);
+        due.so("all else stays", Edges.allOf(filmed).equals(Edges.allOf(same)));
     }
 
     private static void frameBits() {
@@ -351,6 +353,7 @@ public final class EdgeSheetsTest {
         due.part("33: 0 to 24 items; BAD: also n above 24"); itemsOfNewSheets();
         due.part("33: SIZE: n below 0"); sizesBelowZero();
         due.part("33: holds a new row of a LANE: n"); newRow();
+        due.part("33: each SHEET by itself"); eachByItself();
         due.part("33: BAD ahead of all others"); badAheadOfSize();
     }
 
@@ -396,6 +399,35 @@ public final class EdgeSheetsTest {
         }
     }
 
+    private static void eachByItself() {
+        for (int changed = 0; changed < 4; changed++) {
+            for (int lane = 0; lane < 4; lane++) {
+                CaughtHand x = edges.with("p0000077@0");
+                for (int sheet = 0; sheet < 4; sheet++) {
+                    x.sheet(sheet, lane, 4);
+                    x.item(sheet, lane, 1, 77);
+                    x.item(sheet, lane, 3, 77);
+                }
+                x.item(changed, lane, 1, 5);
+                othersStay(x, changed, lane);
+                x.film(0, 1, changed, lane, 1);
+                x.copy(changed, 2, changed, 0, 2);
+                x.sheet(changed, 3 - lane, 24);
+                othersStay(x, changed, lane);
+                due.is("drop", x.drop(changed), 24);
+                othersStay(x, changed, lane);
+            }
+        }
+    }
+
+    private static void othersStay(CaughtHand x, int changed, int lane) {
+        for (int sheet = 0; sheet < 4; sheet++) {
+            if (sheet != changed) {
+                due.is("sheet " + sheet, x.lasted(0, sheet, lane, 0, 2), Edges.EVERY_L);
+            }
+        }
+    }
+
     private static void badAheadOfSize() {
         due.is("no such sheet", new CaughtHand().sheet(4, 0, -1), BAD);
         due.is("no such sheet", new CaughtHand().sheet(-1, 0, -1), BAD);
@@ -413,18 +445,27 @@ public final class EdgeSheetsTest {
 
     private static void dropped() {
         for (int n : new int[] {0, 1, 23, 24}) {
-            for (int lane = 0; lane < 4; lane++) {
-                CaughtHand x = edges.with("p0000000@0");
-                x.sheet(lane, lane, n);
-                due.is("drop", x.drop(lane), n);
-                due.is("nothing", x.drop(lane), NULL);
-                due.is("nothing", x.item(lane, lane, 0, 0), NULL);
-                due.is("nothing", x.lasted(0, lane, lane, 0, 1), NULL);
-                due.is("nothing", x.film(0, 1, lane, lane, 0), NULL);
-                due.is("nothing", x.copy(lane, 0, lane, 0, 0), NULL);
-                due.is("anew", x.sheet(lane, lane, n), n);
+            for (int sheet = 0; sheet < 4; sheet++) {
+                for (int lane = 0; lane < 4; lane++) {
+                    dropOf(sheet, lane, n);
+                }
             }
         }
+    }
+
+    private static void dropOf(int sheet, int lane, int n) {
+        CaughtHand x = edges.with("p0000000@0");
+        x.sheet(sheet, lane, n);
+        for (int other = 0; other < 4; other++) {
+            due.is("the others hold nothing", x.drop(other), other == sheet ? n : NULL);
+        }
+        due.is("nothing", x.drop(sheet), NULL);
+        due.is("nothing", x.item(sheet, lane, 0, 0), NULL);
+        due.is("nothing", x.lasted(0, sheet, lane, 0, 1), NULL);
+        due.is("nothing", x.film(0, 1, sheet, lane, 0), NULL);
+        due.is("nothing", x.copy(sheet, 0, sheet, 0, 0), NULL);
+        due.is("anew", x.sheet(sheet, lane, n), n);
+        due.is("drop", x.drop(sheet), n);
     }
 
     // ---- promise 35
@@ -497,9 +538,14 @@ public final class EdgeSheetsTest {
         for (int i : new int[] {-1, 7, 8, 24, LEAST, GREATEST}) {
             edges.leavesAll("item " + i, INDEX, x -> x.item(0, 2, i, 5));
         }
-        due.is("of none", with(2, 0).item(0, 2, 0, 5), INDEX);
-        due.is("the last of 24", with(2, 24).item(0, 2, 23, 5), 1);
-        due.is("behind it", with(2, 24).item(0, 2, 24, 5), INDEX);
+        for (int lane = 0; lane < 4; lane++) {
+            for (int n : new int[] {0, 1, 2, 23, 24}) {
+                CaughtHand x = with(lane, n);
+                for (int i = -1; i <= 25; i++) {
+                    due.is("item " + i + " of " + n, x.item(0, lane, i, 5), i >= 0 && i < n ? 1 : INDEX);
+                }
+            }
+        }
     }
 
     private static void itemInOrder() {
@@ -554,7 +600,7 @@ public final class EdgeSheetsTest {
 
     private static void takenAhead() {
         for (int by : new int[] {-22, -2, -1, 0, 1, 2, 11, 22}) {
-            for (int lane = 0; lane < 4; lane += 3) {
+            for (int lane = 0; lane < 4; lane++) {
                 CaughtHand x = numbered(1, lane);
                 int n = 24 - Math.max(by, -by);
                 int i = Math.max(0, -by);

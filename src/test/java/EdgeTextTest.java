@@ -321,18 +321,27 @@ public final class EdgeTextTest {
 
     private static void dayAndDryChairs() {
         for (int days = 1; days <= 61; days += 30) {
-            CaughtHand x = new CaughtHand();
+            CaughtHand x = edges.with("p0000000@0,s9777777@1;" + Edges.WET);
             for (int chair = 0; chair < 8; chair++) {
                 x.dry(chair, 1);
             }
             x.days(1);
             x.days(Math.max(1, days - 1));
+            // foretold ahead of it, and a fault: neither leaves anything behind
+            due.is("foretold", x.writes(0, 60), 0);
+            due.is("a fault", Due.officeOf(x, "p0000000@0;rrrx"), -34);
             due.is("office", Due.officeOf(x, "p0000000@0,s9100000@1;r"), 2);
             due.is("day", x.count(1), 0);
             due.is("dry", x.count(3), 0);
             due.is("wet", x.count(2), 1);
+            due.is("weather", x.weather(1), 1);
             due.is("taken", x.days(1), 1);
             due.is("till", x.till(0, 0), 28);
+            due.is("dry", x.count(3), 0);
+            due.is("foretold", x.writes(0, 60), 100000);
+            due.is("office without weather", Due.officeOf(x, "p0000000@0"), 1);
+            due.is("day", x.count(1), 0);
+            due.is("weather", x.weather(1), 0);
         }
     }
 
@@ -385,14 +394,13 @@ public final class EdgeTextTest {
     }
 
     private static void allElseStays() {
-        for (String text : new String[] {"", "p", "t9777777@7,", "t9777777@7,t9777777@7", "t9777777@7;", "t9777777@7;x", "t9777777@7;rx", "t9777777@8",
-            Edges.SEVEN + ",", "t9777777@7;" + "r".repeat(31)}) {
+        String others = ",s1111111@0,s1111111@1,s1111111@2,s1111111@3,s1111111@4,s1111111@5";
+        // what is typed behind the p5 that is on the tape
+        for (String rest : new String[] {"", "x", "777777", "777777@7,", "777777@7,t9777777@7", "777777@7;", "777777@7;x", "777777@7;rx", "777777@8",
+            "777777@7" + others + ",", "777777@7;" + "r".repeat(31)}) {
             CaughtHand x = Edges.rich();
-            CaughtHand y = Edges.rich();
-            x.office();
-            y.office();
-            due.so("'" + text + "' is none", Due.officeOf(x, text) <= -20);
-            due.so("'" + text + "' changes nothing", Edges.allOf(x).equals(Edges.allOf(y)));
+            due.so("'p5" + rest + "' is none", Due.officeOf(x, rest) <= -20);
+            due.so("'p5" + rest + "' changes nothing", Edges.allOf(x).equals(Edges.allOf(Edges.richButNoTape())));
         }
     }
 

@@ -45,6 +45,13 @@ final class Edges {
 
     /** An object on which everything that can be something is something: strokes taken, days known, an image, sheets, a tape. */
     static CaughtHand rich() {
+        CaughtHand x = richButNoTape();
+        x.type('p');
+        x.type('5');
+        return x;
+    }
+
+    static CaughtHand richButNoTape() {
         CaughtHand x = new CaughtHand();
         Due.officeOf(x, "p0000000@0,s9123456@1,l3000077@4;rrr.r");
         x.lasting(9);
@@ -62,23 +69,29 @@ final class Edges {
         x.item(1, 0, 1, 77);
         x.sheet(3, 3, 2);
         x.item(3, 3, 1, 77);
-        x.type('p');
-        x.type('5');
         return x;
     }
 
     /** All that an object holds, read out of it, as one text; the object is spoilt by it. */
     static String allOf(CaughtHand x) {
         StringBuilder s = new StringBuilder();
+        addOffice(s, x);
+        s.append(x.type('x')).append(' ').append(x.office()).append(' ');
+        s.append(x.restore()).append(' ');
+        addOffice(s, x);
+        addSheets(s, x);
+        return s.toString();
+    }
+
+    /** By what people write who are as those of the rich object were when its sheets were laid. */
+    private static void addSheets(StringBuilder s, CaughtHand x) {
+        Due.officeOf(x, "p0000000@0,s9123456@1,l3000077@4;rrr.r");
+        x.lasting(9);
+        x.days(3);
         s.append(x.lasted(0, 0, 2, 0, 3)).append(' ').append(x.lasted(2, 1, 0, 0, 1)).append(' ').append(x.lasted(2, 3, 3, 0, 1)).append(' ');
         for (int sheet = 0; sheet < 4; sheet++) {
             s.append(x.drop(sheet)).append(' ');
         }
-        s.append(x.type('x')).append(' ').append(x.office()).append(' ');
-        addOffice(s, x);
-        s.append(x.restore()).append(' ');
-        addOffice(s, x);
-        return s.toString();
     }
 
     private static void addOffice(StringBuilder s, CaughtHand x) {

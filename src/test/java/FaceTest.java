@@ -1,7 +1,6 @@
 import java.io.IOException;
 import java.lang.reflect.Constructor;
 import java.lang.reflect.Field;
-import java.lang.reflect.Member;
 import java.lang.reflect.Method;
 import java.lang.reflect.Modifier;
 import java.nio.file.Files;
@@ -16,9 +15,10 @@ public final class FaceTest {
         + "two ii, tree , signature i, image , restore , lasted iiiii, film iiiii, sheet iii, drop i, item iiil, copy iiiii";
     private static final String[] NAMES = {"BAD", "NOT", "FULL", "NONE", "NULL", "CAST", "INDEX", "SIZE"};
     private static final int[] VALUES = {-1, -2, -3, -4, -11, -12, -13, -14};
-    private static final String[] FORBIDDEN = {"package ", "import ", "catch", "finally", "synchronized", "assert", "->", "::", "Exact(",
-        "throw", "interface", "getClass", "System.out", "System.nano", "System.current", "Thread", "native", "volatile", "transient",
-        "instanceof", "hashCode", "toString", "float", "double", "record", "enum"};
+    private static final String[] FORBIDDEN = {"package ", "finally", "synchronized", "assert", "->", "::", "Exact(", "getClass", "System.out",
+        "System.in", "System.err", "System.nano", "System.current", "System.identity", "Thread", "Random", "native", "volatile", "transient",
+        "hashCode", "getMessage", "NullPointer", "ArrayIndexOutOf", "StringIndexOutOf", "ClassCast", "NegativeArray", "ArrayStore",
+        "StackOverflow", "OutOfMemory", "Throwable", "(Exception ", "catch (Error"};
     private static final Due due = new Due();
 
     public static void main(String[] args) throws IOException {
@@ -41,6 +41,7 @@ public final class FaceTest {
                 holds(m.getName() + " answers an int, not static", m.getReturnType() == int.class && !Modifier.isStatic(m.getModifiers()));
             } else {
                 holds(m.getName() + " is private", Modifier.isPrivate(m.getModifiers()));
+                holds(m.getName() + " bears no public name", !bearsPublicName(m));
             }
         }
         holds("methods " + got, got.equals(want));
@@ -85,15 +86,19 @@ public final class FaceTest {
 
     private static void inside() {
         Class<?>[] all = CaughtHand.class.getDeclaredClasses();
-        holds("some twelve classes", all.length < 12);
+        holds("some twelve classes", all.length <= 12);
         members(CaughtHand.class);
         for (Class<?> c : all) {
             holds(c + " is static and not open", Modifier.isStatic(c.getModifiers()) && !Modifier.isPublic(c.getModifiers()) && !Modifier.isProtected(c.getModifiers()));
             members(c);
             for (Method m : c.getDeclaredMethods()) {
-                holds(m + " bears no public name", !(FACE + ",").matches("(.*, )?" + m.getName() + " [il]*,.*"));
+                holds(m + " bears no public name", !Modifier.isPrivate(m.getModifiers()) || !bearsPublicName(m));
             }
         }
+    }
+
+    private static boolean bearsPublicName(Method m) {
+        return (FACE + ",").matches("(.*, )?" + m.getName().replace("$", "\\$") + " [il]*,.*");
     }
 
     private static void members(Class<?> c) {
@@ -102,14 +107,12 @@ public final class FaceTest {
             if (!Modifier.isStatic(f.getModifiers())) {
                 fields++;
             } else {
-                holds(f + " is a constant", Modifier.isFinal(f.getModifiers()) && (f.getType().isPrimitive() || f.getType() == String.class));
+                holds(f + " is final", Modifier.isFinal(f.getModifiers()));
             }
         }
         holds(c + " has some twenty fields at most", fields <= 20);
-        TreeSet<String> names = new TreeSet<>();
         for (Method m : c.getDeclaredMethods()) {
             holds(m + " takes seven at most", m.getParameterCount() <= 7);
-            holds(m + " is the only one of its name", names.add(((Member) m).getName()));
         }
     }
 
@@ -122,6 +125,8 @@ public final class FaceTest {
             for (String word : FORBIDDEN) {
                 holds("line " + (k + 1) + " has no " + word, !code.contains(word));
             }
+            holds("line " + (k + 1) + " imports what it may", !code.startsWith("import ")
+                || code.matches("import java\\.util\\.(ArrayList|List|Arrays|Iterator|NoSuchElementException);"));
             for (int i = 0; i < line.length(); i++) {
                 holds("line " + (k + 1) + " is of plain signs", line.charAt(i) >= 32 && line.charAt(i) < 127);
             }
